@@ -255,6 +255,10 @@ public final class ModelTest {
         if (about != 0) {
             tellMuch();
         }
+        for (int i = 0; i < 8 && seed % 3 != 0 && model.s.theText == -1; i++) {
+            feed(text());
+            call("by", (int) call("text"));
+        }
         while (log.size() < 512 && !broken) {
             if (oneIn(3)) {
                 change(about);
@@ -272,7 +276,10 @@ public final class ModelTest {
         }
         int sentences = upTo(9);
         for (int i = 0; i < sentences; i++) {
-            call("sense", 1 + upTo(5), upTo(senses), upTo(senses), upTo(senses), upTo(senses), upTo(senses));
+            int first = upTo(senses);
+            int second = oneIn(2) ? first : upTo(senses);
+            int third = oneIn(2) ? second : upTo(senses);
+            call("sense", 1 + upTo(5), first, second, third, upTo(senses), upTo(senses));
         }
         for (int i = upTo(6); i > 0; i--) {
             call("made", letter() - 'a', letter() - 'a', upTo(4));
@@ -324,6 +331,9 @@ public final class ModelTest {
                 call("text");
                 call("fault", 0);
                 call("fault", 1);
+                if (oneIn(2)) {
+                    call("by", model.s.texts.size() - 1);
+                }
                 break;
             case 20:
                 call("by", near(4));
@@ -350,6 +360,16 @@ public final class ModelTest {
         call("fits");
     }
 
+    private void askStates(int sentence, int place) {
+        for (int word = -1; word <= model.s.words.size(); word++) {
+            boolean known = sentence >= 0 && sentence < model.s.sentences.size() && place >= 0
+                    && place < model.s.sentences.get(sentence).size() && word >= 0 && word < model.s.words.size();
+            if (oneIn(8) || known && model.s.words.get(word).sense() == model.s.sentences.get(sentence).get(place)) {
+                call("states", sentence, place, word);
+            }
+        }
+    }
+
     private void ask() {
         int words = model.s.words.size();
         int sentences = model.s.sentences.size();
@@ -358,7 +378,7 @@ public final class ModelTest {
             case 2, 3 -> call("stiff", near(words));
             case 4, 5, 6 -> call("least", near(sentences), near(3));
             case 7, 8 -> call("sentence", near(sentences), near(6) - 1);
-            case 9, 10 -> call("states", near(sentences), near(5), near(words));
+            case 9, 10 -> askStates(near(sentences), near(5));
             case 11 -> call("none");
             case 12 -> call(oneIn(6) ? "worst" : "senses");
             case 13 -> {

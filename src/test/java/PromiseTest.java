@@ -251,6 +251,16 @@ public final class PromiseTest {
         faulty("stiff if (1<2) then 2 else 3 end;", 1, 11);
         faulty("stiff if 1<2 then 2 end;", 1, 20);
         faulty("stiff not 1;", 1, 6);
+        faulty("stiff if 1=1 and 2 then 1 else 1 end;", 1, 19);
+        faulty("stiff if 1=1 or 2 then 1 else 1 end;", 1, 18);
+        faulty("stiff if not 2 then 1 else 1 end;", 1, 15);
+        faulty("stiff if 1=use then 1 else 1 end;", 5, 11);
+        faulty("stiff 1*use;", 5, 8);
+        faulty("stiff (use);", 5, 7);
+        faulty("stiff -use;", 5, 7);
+        faulty("stiff uses use;", 5, 11);
+        faulty("stiff if 1=1 then use else 1 end;", 5, 18);
+        faulty("stiff if 1=1 then 1 else use end;", 5, 25);
         faulty("stiff then;", 1, 6);
         faulty("stiff Day;", 1, 6);
         faulty("stiff 1 use;", 1, 8);
@@ -305,12 +315,26 @@ public final class PromiseTest {
         faulty("word aBc kind 0 sense 0 stiff 0;", 7, 5);
         faulty("lose ab;", 7, 5);
         faulty("lose A;", 7, 5);
+        faulty("lose Z;", 7, 5);
+        faulty("lose [;", 1, 5);
+        faulty("lose @;", 1, 5);
+        faulty("lose `;", 1, 5);
+        faulty("lose {;", 1, 5);
         faulty("make a of bc look 1;", 7, 10);
         faulty("say 0,1,2,3,4,5;", 8, 13);
         faulty("say 0,1,2,3,4,99;", 8, 13);
         faulty("lose " + (char) 200 + ";", 1, 5);
+        String longLaw = "stiff 1" + times(140, "+1") + ";";
+        for (int i = 0; i < 3; i++) {
+            faulty(longLaw + "?", 1, longLaw.length());
+        }
+        faulty("lose ab;", 7, 5);
+        due("not a third", x.fault(2), -1);
         due("none was taken", x.about(2), 0);
         due("the tape is empty", x.about(8), 0);
+        word("a", 0, 0, 0);
+        rule("stiff 1" + times(90, "+1") + ";");
+        due("faults leave nothing behind", x.stiff(0), 91);
     }
 
     private static void laws() {
@@ -400,6 +424,10 @@ public final class PromiseTest {
         due("or", value("if 1=2 or 2=1 then 1 else 0 end"), 0);
         due("and binds", value("if 1=1 or 1=1 and 1=2 then 1 else 0 end"), 1);
         due("not is of one ask", value("if not 1=1 or 1=1 then 1 else 0 end"), 1);
+        due("not", value("if not 1=1 then 1 else 0 end"), 0);
+        due("not", value("if not 1=2 then 1 else 0 end"), 1);
+        due("a true ask is 1", value("if not 1<2 then 1 else 0 end+if not 1<=2 then 1 else 0 end"
+                + "+if not 2>1 then 1 else 0 end+if not 2>=1 then 1 else 0 end+if not 2#1 then 1 else 0 end"), 0);
         due("not not", value("if not not 1=1 and not 1=2 then 1 else 0 end"), 1);
         due("an if in a sum", value("1+if 1<2 then if 1<2 then 5 else 6 end else 7 end*10"), 51);
         due("an if in an ask", value("if if 1<2 then 3 else 4 end=3 then 8 else 9 end"), 8);
@@ -844,6 +872,20 @@ public final class PromiseTest {
         lose("b");
         due("aa aa aa: 3 more for each", x.least(0, 0), 12);
         due("state", x.states(0, 1, 0), 7);
+        start("20 states: the least word beside itself");
+        word("a", 0, 0, 5);
+        word("b", 0, 0, 3);
+        word("c", 2, 1, 5);
+        word("d", 2, 1, 3);
+        x.sense(3, 0, 0, 0, 0, 0);
+        x.sense(3, 1, 1, 1, 0, 0);
+        x.sense(2, 0, 1, 0, 0, 0);
+        due("a b", x.states(0, 1, 1), 8);
+        due("b a", x.states(0, 1, 0), 8);
+        due("b a b", x.states(0, 2, 1), 11);
+        due("c d: 1 more", x.states(1, 1, 3), 13);
+        due("d c d", x.states(1, 2, 3), 19);
+        due("b d", x.states(2, 1, 3), 8);
         start("18 least: turned ones");
         word("x", 2, 0, 0);
         word("y", 2, 0, 0);
@@ -933,6 +975,22 @@ public final class PromiseTest {
         rule("stiff if lost=1 then if kind=4 then 30 else told end else 0 end;");
         due("a: 30", x.worst(), 0);
         due("few: all 0 or 50 aside", x.few(false) * 100 + x.few(true), 1);
+        start("22 worst: what can't be said is 50");
+        word("a", 0, 0, 9);
+        word("b", 0, 1, 1);
+        word("bbbbbb", 3, 1, 9);
+        x.sense(1, 0, 0, 0, 0, 0);
+        x.sense(5, 1, 1, 1, 1, 1);
+        rule("stiff if kind=0 then told else 20 end;");
+        due("b: 9 + 50; a: 50 + 17", x.worst(), 0);
+        rule("stiff if kind=0 then told else 0 end;");
+        due("a: 50 + 2; b: 9 + 50", x.worst(), 1);
+        rule("stiff if kind=0 then told+lost*60 else 99 end;");
+        due("the law is asked anew: a: 50 + 317; b: 69 + 50; c: 69 + 317", x.worst(), 2);
+        x.by(-1);
+        due("few", x.few(false) * 100 + x.few(true), 1);
+        rule("stiff if lost=2 then if kind=0 then 60 else 0 end else 0 end;");
+        due("few: the law is asked anew: a, b: 100; b, c: 60 + 50", x.few(false) * 100 + x.few(true), 102);
         start("23 few: like ones");
         word("c", 0, 0, 0);
         x.sense(1, 0, 0, 0, 0, 0);
@@ -1052,6 +1110,20 @@ public final class PromiseTest {
         due("10 at most", x.notices(1, false) * 10 + x.notices(1, true), 11);
         due("held: 0 at least", x.held(), 2);
         due("p 100", x.lines(100), 1);
+        rule("notices if line=0 then total else 9-total end;");
+        due("held: as line 0", x.held(), 2);
+        start("30 notices: the names");
+        word("a", 6, 0, 0);
+        x.sense(1, 0, 0, 0, 0, 0);
+        rule("wears 0;notices lost;");
+        due("lost", x.notices(1, false), 0);
+        lose("abc");
+        due("lost", x.notices(1, false) * 100 + x.notices(1, true), 310);
+        x.week(7);
+        rule("notices day;");
+        due("day", x.notices(1, false) * 100 + x.notices(1, true), 710);
+        rule("notices seconds;");
+        due("seconds", x.notices(1, false) * 100 + x.notices(1, true), 910);
         start("30 notices: eight lines");
         word("a", 0, 0, 4);
         for (int i = 0; i < 8; i++) {
@@ -1286,10 +1358,12 @@ public final class PromiseTest {
         start("50 image, 51 restore");
         word("go", 0, 0, 3);
         x.sense(1, 0, 0, 0, 0, 0);
-        rule("stiff 1;wears 0;");
+        word("stay", 0, 3, 8);
+        rule("stiff told-2;wears 0;");
         x.made(0, 1, 2);
         x.page(0);
         x.stiffs(0, 1);
+        due("law", x.law(), 1);
         tape("g-");
         x.report();
         lose("e");
@@ -1302,9 +1376,11 @@ public final class PromiseTest {
         x.made(0, 2, 3);
         x.made(7, 8, 1);
         x.page(-1);
+        x.page(1);
         x.stiffs(-1, 0);
+        x.stiffs(1, 44);
         x.clear();
-        tape("zz");
+        tape("-");
         x.report();
         lose("f");
         x.week(9);
@@ -1313,7 +1389,7 @@ public final class PromiseTest {
         tape("tape");
         for (int again = 0; again < 2; again++) {
             due("restore", x.restore(), 3);
-            due("words", x.about(0), 1);
+            due("words", x.about(0), 2);
             due("sentences", x.about(1), 1);
             due("texts", x.about(2), 1);
             due("the text", x.about(3), 0);
@@ -1327,13 +1403,15 @@ public final class PromiseTest {
             due("made", x.letters(0), 2);
             due("made", x.letters(7), 0);
             due("meant", x.meant(0), 1);
+            due("law", x.law(), 1);
+            due("wrote", x.wrote(2), bits("go"));
             due("lost", x.is(1), 16);
             due("use", x.use(6), 3);
             due("book", x.book(-1, 0), 3);
             due("undo", x.undo(), 3);
             due("day", x.is(0), 2);
-            due("another word in its place", word("no", 1, 2, 4), 1);
-            due("its kind", x.told(1, 0), 1);
+            due("another word in its place", word("no", 1, 2, 4), 2);
+            due("its kind", x.told(2, 0), 1);
             due("another text in its place", text("stiff 5;"), 1);
             x.by(1);
             due("stiff", x.stiff(0), 5);
