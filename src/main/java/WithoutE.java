@@ -203,13 +203,13 @@ public final class WithoutE {
             case DEED_SAY:
                 return addSentence(script.code, script.starts[n] + 1, first) != NONE;
             case DEED_MAKE:
-                return tellMade(first, script.part(n, 1), script.part(n, 2));
+                return made(first, script.part(n, 1), script.part(n, 2));
             case DEED_LOSE:
-                return loseByHand(first);
+                return key(first);
             case DEED_TURN:
-                return turnWord(first) != NONE;
+                return turn(first) != NONE;
             case DEED_WRITE:
-                return writeByHand(first) != NONE;
+                return write(first) != NONE;
             case DEED_WEEK:
                 return passDays(first);
             default:
@@ -231,7 +231,24 @@ public final class WithoutE {
     }
 
     public int turn(int word) {
-        return turnWord(word);
+        if (!dictionary.hasWord(word)) {
+            return refuse(NO_SUCH);
+        }
+        if (dictionary.words >= MOST_WORDS) {
+            return refuse(NO_ROOM);
+        }
+        int length = dictionary.lengths[word];
+        if (dictionary.kinds[word] != 0 || length + 3 > MOST_LETTERS) {
+            return refuse(NOT_NOW);
+        }
+        spelled[0] = 'd';
+        spelled[1] = 'i';
+        spelled[2] = 'd';
+        for (int i = 0; i < length; i++) {
+            spelled[i + 3] = 'a' + dictionary.spelling[word][i];
+        }
+        return dictionary.tellWord(spelled, 0, length + 3, TURNED, dictionary.meanings[word],
+                dictionary.stiffs[word]);
     }
 
     public int sense(int n, int a, int b, int c, int d, int e) {
@@ -252,15 +269,40 @@ public final class WithoutE {
     }
 
     public boolean made(int letter, int of, int look) {
-        return tellMade(letter, of, look);
+        if (!isLetter(letter) || !isLetter(of) || letter == of || look < 0 || look > 9) {
+            refuse(NO_SUCH);
+            return false;
+        }
+        notes.madeOf[letter] = of;
+        notes.looks[letter] = look;
+        return true;
     }
 
     public boolean key(int letter) {
-        return loseByHand(letter);
+        if (!isLetter(letter)) {
+            refuse(NO_SUCH);
+            return false;
+        }
+        if (has(machine.lost, letter)) {
+            refuse(NOT_NOW);
+            return false;
+        }
+        machine.markStep();
+        machine.lost |= 1 << letter;
+        return true;
     }
 
     public int write(int sentence) {
-        return writeByHand(sentence);
+        if (!dictionary.hasSentence(sentence)) {
+            return refuse(NO_SUCH);
+        }
+        hearNow();
+        if (!speech.speak(sentence)) {
+            return refuse(NOT_NOW);
+        }
+        machine.markStep();
+        typeSpoken(sentence);
+        return speech.total;
     }
 
     public int week(int n) {
@@ -302,64 +344,6 @@ public final class WithoutE {
             return refuse(NO_ROOM);
         }
         return dictionary.tellSentence(senses, from, length);
-    }
-
-    private int turnWord(int word) {
-        if (!dictionary.hasWord(word)) {
-            return refuse(NO_SUCH);
-        }
-        if (dictionary.words >= MOST_WORDS) {
-            return refuse(NO_ROOM);
-        }
-        int length = dictionary.lengths[word];
-        if (dictionary.kinds[word] != 0 || length + 3 > MOST_LETTERS) {
-            return refuse(NOT_NOW);
-        }
-        spelled[0] = 'd';
-        spelled[1] = 'i';
-        spelled[2] = 'd';
-        for (int i = 0; i < length; i++) {
-            spelled[i + 3] = 'a' + dictionary.spelling[word][i];
-        }
-        return dictionary.tellWord(spelled, 0, length + 3, TURNED, dictionary.meanings[word],
-                dictionary.stiffs[word]);
-    }
-
-    private boolean tellMade(int letter, int of, int look) {
-        if (!isLetter(letter) || !isLetter(of) || letter == of || look < 0 || look > 9) {
-            refuse(NO_SUCH);
-            return false;
-        }
-        notes.madeOf[letter] = of;
-        notes.looks[letter] = look;
-        return true;
-    }
-
-    private boolean loseByHand(int letter) {
-        if (!isLetter(letter)) {
-            refuse(NO_SUCH);
-            return false;
-        }
-        if (has(machine.lost, letter)) {
-            refuse(NOT_NOW);
-            return false;
-        }
-        machine.markStep();
-        machine.lost |= 1 << letter;
-        return true;
-    }
-
-    private int writeByHand(int sentence) {
-        if (!dictionary.hasSentence(sentence)) {
-            return refuse(NO_SUCH);
-        }
-        hearNow();
-        if (!speech.speak(sentence)) {
-            return refuse(NOT_NOW);
-        }
-        machine.markStep();
-        typeSpoken(sentence);
-        return speech.total;
     }
 
     private void typeSpoken(int sentence) {
@@ -911,14 +895,10 @@ public final class WithoutE {
     }
 
     public int all() {
-        return SENSES - Integer.bitCount(sensesUnsaid());
+        return SENSES - Integer.bitCount(senses());
     }
 
     public int senses() {
-        return sensesUnsaid();
-    }
-
-    private int sensesUnsaid() {
         int unsaid = (1 << SENSES) - 1;
         for (int word = 0; word < dictionary.words; word++) {
             if (sound.canBe(word, machine.lost)) {
@@ -956,7 +936,14 @@ public final class WithoutE {
         if (i < 0 || i >= notes.reported) {
             return NONE;
         }
-        return wordsMeant(i);
+        int words = 0;
+        for (int word = 0; word < dictionary.words; word++) {
+            if (dictionary.lengths[word] == notes.reportLengths[i]
+                    && isAlike(dictionary.spelling[word], notes.reports[i], dictionary.lengths[word])) {
+                words |= 1 << word;
+            }
+        }
+        return words;
     }
 
     public int fits() {
@@ -971,7 +958,7 @@ public final class WithoutE {
 
     private boolean fitsReport(int sentence) {
         for (int i = 0; i < notes.reported; i++) {
-            int words = wordsMeant(i);
+            int words = meant(i);
             boolean found = false;
             for (int word = 0; word < dictionary.words; word++) {
                 found |= has(words, word) && dictionary.meanings[word] == dictionary.rows[sentence][i];
@@ -981,17 +968,6 @@ public final class WithoutE {
             }
         }
         return true;
-    }
-
-    private int wordsMeant(int i) {
-        int words = 0;
-        for (int word = 0; word < dictionary.words; word++) {
-            if (dictionary.lengths[word] == notes.reportLengths[i]
-                    && isAlike(dictionary.spelling[word], notes.reports[i], dictionary.lengths[word])) {
-                words |= 1 << word;
-            }
-        }
-        return words;
     }
 
     private static boolean isAlike(int[] letters, int[] bytes, int length) {
