@@ -1,90 +1,5 @@
 /** At least one test for each promise of the document: ordinary calls, the edges it names, and wrong ones. */
-public final class PromiseTest {
-    private static int wrong = 0;
-    private static String promise = "";
-    private static WithoutE x;
-
-    private static void due(String call, long got, long want) {
-        if (got != want) {
-            wrong++;
-            System.out.println(promise + ": " + call + " answered " + got + ", due is " + want);
-        }
-    }
-
-    private static void due(String call, boolean got, boolean want) {
-        due(call, got ? 1 : 0, want ? 1 : 0);
-    }
-
-    private static void start(String name) {
-        promise = name;
-        x = new WithoutE();
-    }
-
-    private static int four(String text, int at) {
-        int four = 0;
-        for (int i = at; i < at + 4; i++) {
-            four = four << 8 | (i < text.length() ? text.charAt(i) : 0);
-        }
-        return four;
-    }
-
-    private static void tape(String text) {
-        x.end(0);
-        for (int i = 0; i < text.length(); i += 20) {
-            x.feed(four(text, i), four(text, i + 4), four(text, i + 8), four(text, i + 12), four(text, i + 16));
-        }
-        due("end", x.end(text.length()), text.length());
-    }
-
-    private static int word(String letters, int kind, int sense, int stiff) {
-        tape(letters);
-        return x.word(kind, sense, stiff);
-    }
-
-    private static int text(String source) {
-        tape(source);
-        return x.text();
-    }
-
-    private static void rule(String source) {
-        int n = text(source);
-        due("text " + source, n >= 0, true);
-        due("by", x.by(n), true);
-    }
-
-    private static void faulty(String source, int fault, int place) {
-        due("text " + source, text(source), -1);
-        due("fault(0) of " + source, x.fault(0), fault);
-        due("fault(1) of " + source, x.fault(1), place);
-    }
-
-    private static void good(String source) {
-        WithoutE old = x;
-        x = new WithoutE();
-        due("text " + source, text(source), 0);
-        due("fault(0) of " + source, x.fault(0), 0);
-        due("fault(1) of " + source, x.fault(1), -1);
-        x = old;
-    }
-
-    private static void lose(String letters) {
-        for (char c : letters.toCharArray()) {
-            due("key " + c, x.key(c - 'a'), true);
-        }
-    }
-
-    private static int bits(String letters) {
-        int bits = 0;
-        for (char c : letters.toCharArray()) {
-            bits |= 1 << c - 'a';
-        }
-        return bits;
-    }
-
-    private static String times(int n, String text) {
-        return text.repeat(n);
-    }
-
+public final class PromiseTest extends Bench {
     public static void main(String[] args) {
         newObject();
         tapeCalls();
@@ -118,10 +33,7 @@ public final class PromiseTest {
         images();
         statusOf();
         about();
-        System.out.println(wrong == 0 ? "all promises hold" : wrong + " answers are not as due");
-        if (wrong != 0) {
-            System.exit(1);
-        }
+        finish("all promises hold");
     }
 
     private static void newObject() {
