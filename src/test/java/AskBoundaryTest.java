@@ -256,6 +256,15 @@ public final class AskBoundaryTest extends Bench {
         say(1);
         lose("e");
         due("the other is in neither", x.longer(), 0);
+        start("LONGER: now and with no KEY LOST");
+        word("az", 0, 0, 0);
+        word("bcdef", 0, 0, 1);
+        say(0);
+        for (int letter = 0; letter < 26; letter += 25) {
+            x.key(letter);
+            due("without " + letter, x.longer(), 3);
+            x.undo();
+        }
     }
 
     private static void noticesBehind0() {
@@ -788,7 +797,9 @@ public final class AskBoundaryTest extends Bench {
         due("its texts too", text("stiff 2;"), 1);
         x.page(-1);
         x.clear();
+        report("bed");
         x.stiffs(-1, 0);
+        x.stiffs(0, 99);
         x.by(-1);
         due("restore", x.restore(), 35);
         due("all", state(), then);

@@ -6,6 +6,7 @@ public final class CallBoundaryTest extends Bench {
         newObject();
         feed();
         end();
+        endAlone();
         text();
         textOfFour();
         fault();
@@ -141,6 +142,39 @@ public final class CallBoundaryTest extends Bench {
         for (int n : FAR_OFF) {
             due("end " + n, x.end(n), -1);
         }
+    }
+
+    private static void endAlone() {
+        start(3, "The tape has its first n bytes alone");
+        String[] sources = {"lose ab;", "stiff if 1<=2", "stiff 12345;", "lose  ;", "stiffs 1;", "lose a;;"};
+        int[][] want = {{6, 1, 6}, {11, 1, 11}, {10, 1, 10}, {5, 1, 5}, {5, 1, 5}, {7, 0, -1}};
+        for (int i = 0; i < sources.length; i++) {
+            x = new WithoutE();
+            tape(sources[i]);
+            x.end(want[i][0]);
+            x.text();
+            due("fault of " + sources[i], x.fault(0), want[i][1]);
+            due("its place", x.fault(1), want[i][2]);
+        }
+        start(3, "The tape has its first n bytes alone: a word, a report");
+        tape("abcdefghijk");
+        x.end(9);
+        due("word", x.word(0, 0, 0), 0);
+        tape("ab-");
+        x.end(2);
+        due("word", x.word(0, 0, 0), 1);
+        due("two letters", x.told(1, 3), 2);
+        tape("ab-");
+        x.end(2);
+        x.report();
+        due("report", x.meant(0), 2);
+        start(3, "The tape has its first n bytes alone: more come behind these");
+        tape("abcdef");
+        x.end(1);
+        x.feed(0x78000000, 0, 0, 0, 0);
+        x.end(2);
+        due("word", x.word(0, 0, 0), 0);
+        due("a x", x.told(0, 8) * 100 + x.told(0, 9), 23);
     }
 
     private static void text() {

@@ -433,6 +433,16 @@ public final class TermsBoundaryTest extends Bench {
         due("one", x.told(1, 4), 1);
         lose("abcdfghi");
         due("nine", x.told(1, 4), 9);
+        start("HOLES: nine of one WORD are nothing to the next");
+        word("aaaaaaaaa", 4, 0, 0);
+        word("e", 5, 1, 0);
+        say(0);
+        say(1);
+        x.made(4, 25, 9);
+        lose("ae");
+        rule("stiff holes*10;");
+        due("nine", x.least(0, 0), 90);
+        due("one", x.least(1, 0), 10);
     }
 
     private static void withoutHoles() {
@@ -575,6 +585,25 @@ public final class TermsBoundaryTest extends Bench {
         for (int s = 0; s < want.length; s++) {
             due("least " + s, x.least(s, 0), want[s]);
         }
+        start("1 more .. if both are turned: which WORDS these are then");
+        word("a", 2, 0, 0);
+        word("b", 2, 1, 0);
+        word("c", 0, 1, 3);
+        say(0, 1);
+        say(1, 0);
+        due("a b is 5, a c is 5: the lowest", x.least(0, 0) * 10 + x.sentence(0, 1), 51);
+        due("b a is 5, c a is 5: the lowest", x.least(1, 0) * 10 + x.sentence(1, 0), 51);
+        word("d", 0, 1, 2);
+        due("a d is 4", x.least(0, 0) * 10 + x.sentence(0, 1), 43);
+        due("d a is 4", x.least(1, 0) * 10 + x.sentence(1, 0), 43);
+        word("e", 2, 1, 0);
+        word("f", 2, 0, 0);
+        say(0, 1, 0);
+        due("a d a, not a d f", x.least(2, 0), 6);
+        due("the third", x.sentence(2, 2), 0);
+        lose("cd");
+        due("a b a, not f", x.least(2, 0), 8);
+        due("the third", x.sentence(2, 2), 0);
     }
 
     private static void lowestWordFirst() {

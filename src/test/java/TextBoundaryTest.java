@@ -15,6 +15,8 @@ public final class TextBoundaryTest extends Bench {
         lettersOf9();
         letterOfOne();
         tokensThatMeanElse();
+        tokensToTheirEnds();
+        comparisons();
         usesOf26();
         cutTowards0();
         byZero();
@@ -36,6 +38,8 @@ public final class TextBoundaryTest extends Bench {
         stiffTo99();
         stiffWithout();
         wearsTo10();
+        wearsByDraw();
+        wearsWithout();
         noticesTo10();
         noticesWithout();
         playedLawsAside();
@@ -91,6 +95,13 @@ public final class TextBoundaryTest extends Bench {
         due("fault", x.fault(1), 299);
         due("the end", text(law.substring(0, 299) + "1"), -1);
         due("fault", x.fault(1), 300);
+        faulty(times(296, " ") + "stif", 1, 296);
+        faulty(times(289, " ") + "stiff if 1<", 1, 300);
+        faulty(times(288, " ") + "stiff if 1<=", 1, 300);
+        faulty(times(292, " ") + "stiff da", 1, 298);
+        faulty(times(291, " ") + "stiff day", 1, 300);
+        faulty(times(293, " ") + "stiff -", 1, 300);
+        faulty(times(294, " ") + "say 99", 2, 298);
         due("no bytes", text(""), 2);
         due("blanks alone", text(times(300, " ")), 3);
     }
@@ -223,13 +234,14 @@ public final class TextBoundaryTest extends Bench {
 
     private static void lettersOf9() {
         start("LETTERS: one TOKEN of 1 to 9 letters a .. z");
-        due("text", text("word z kind 6 sense 11 stiff 9;word abcdefghz kind 0 sense 0 stiff 0;"), 0);
+        due("text", text("word z kind 6 sense 11 stiff 9;word abcdefghz kind 1 sense 2 stiff 3;lose z;"), 0);
         due("played", x.played(0), -1);
         due("1", x.told(0, 3), 1);
         due("9", x.told(1, 3), 9);
         due("the first", x.told(1, 8), 0);
         due("the last", x.told(1, 16), 25);
         due("kind, sense, stiff", x.told(0, 0) * 1000 + x.told(0, 1) * 10 + x.told(0, 2), 6119);
+        due("kind, sense, stiff", x.told(1, 0) * 1000 + x.told(1, 1) * 10 + x.told(1, 2), 1023);
         faulty("word abcdefghzz kind 0 sense 0 stiff 0;", 7, 5);
         faulty("word abcdefghZ kind 0 sense 0 stiff 0;", 7, 5);
         faulty("word Abc kind 0 sense 0 stiff 0;", 7, 5);
@@ -261,6 +273,55 @@ public final class TextBoundaryTest extends Bench {
         faulty("lose if;", 7, 5);
         faulty("stiff stiff;", 1, 6);
         faulty("stiff look;", 1, 6);
+    }
+
+    /** Each token that stands in the document is that one alone: no part of it, no longer one, none but alike. */
+    private static void tokensToTheirEnds() {
+        start("letters .. one behind the other (one TOKEN)");
+        String[][] rows = {
+            {"", "stiff", " 1;"}, {"", "wears", " 1;"}, {"", "notices", " 1;"}, {"", "say", " 1;"},
+            {"", "word", " a kind 0 sense 0 stiff 0;"}, {"", "make", " a of b look 0;"}, {"", "lose", " a;"},
+            {"", "turn", " 0;"}, {"", "write", " 0;"}, {"", "week", " 1;"},
+            {"word a ", "kind", " 0 sense 0 stiff 0;"}, {"word a kind 0 ", "sense", " 0 stiff 0;"},
+            {"word a kind 0 sense 0 ", "stiff", " 0;"}, {"make a ", "of", " b look 0;"}, {"make a of b ", "look", " 0;"},
+            {"stiff ", "if", " 1=1 then 1 else 1 end;"},
+            {"stiff if ", "not", " 1=1 then 1 else 1 end;"}, {"stiff if 1=1 ", "or", " 1=1 then 1 else 1 end;"},
+            {"stiff if 1=1 ", "and", " 1=1 then 1 else 1 end;"}, {"stiff if 1=1 ", "then", " 1 else 1 end;"},
+            {"stiff if 1=1 then 1 ", "else", " 1 end;"}, {"stiff if 1=1 then 1 else 1 ", "end", ";"},
+            {"stiff ", "day", ";"}, {"stiff ", "lost", ";"}, {"stiff ", "kind", ";"}, {"stiff ", "told", ";"},
+            {"stiff ", "long", ";"}, {"stiff ", "holes", ";"}, {"stiff ", "extra", ";"}, {"wears ", "letter", ";"},
+            {"wears ", "use", ";"}, {"notices ", "line", ";"}, {"notices ", "total", ";"}, {"notices ", "seconds", ";"},
+        };
+        for (String[] row : rows) {
+            String token = row[1];
+            good(row[0] + token + row[2]);
+            faulty(row[0] + token + "x" + row[2], 1, row[0].length());
+            faulty(row[0] + token.substring(0, token.length() - 1) + row[2], 1, row[0].length());
+            faulty(row[0] + "x" + token.substring(1) + row[2], 1, row[0].length());
+            faulty(row[0] + token.substring(0, token.length() - 1) + "X" + row[2], 1, row[0].length());
+            faulty(row[0] + token.toUpperCase() + row[2], 1, row[0].length());
+        }
+        good("stiff uses 1;");
+        faulty("stiff usesx 1;", 1, 6);
+        faulty("stiff xses 1;", 1, 6);
+        faulty("stiff use 1;", 5, 6);
+        faulty("wears use 1;", 1, 10);
+    }
+
+    private static void comparisons() {
+        start("SUM one of < <= > >= = # (unlike) SUM");
+        String[] signs = {"<", "<=", ">", ">=", "=", "#"};
+        int[][] want = {{1, 1, 0, 0, 0, 1}, {0, 1, 0, 1, 1, 0}, {0, 0, 1, 1, 0, 1}};
+        for (int i = 0; i < signs.length; i++) {
+            for (int left = 1; left <= 3; left++) {
+                String ask = left + signs[i] + "2";
+                due(ask, value("if " + ask + " then 1 else 0 end"), want[left - 1][i]);
+                due("not " + ask, value("if not " + ask + " then 1 else 0 end"), 1 - want[left - 1][i]);
+                due("not not " + ask, value("if not not " + ask + " then 1 else 0 end"), want[left - 1][i]);
+            }
+        }
+        due("below 0", value("if -1<0 then 1 else 0 end"), 1);
+        due("below 0", value("if 0<-1 then 1 else 0 end"), 0);
     }
 
     private static void usesOf26() {
@@ -464,7 +525,8 @@ public final class TextBoundaryTest extends Bench {
     private static void faultFive() {
         start("5 a NAME that isn't of that CLAUSE (at it)");
         String[] laws = {"stiff", "wears", "notices"};
-        String[][] names = {{"kind", "told", "long", "holes", "extra"}, {"letter", "use"}, {"line", "total", "seconds"}};
+        String[][] names = {{"kind", "told", "long", "holes", "extra"}, {"letter", "use"},
+            {"line", "total", "seconds"}};
         for (int law = 0; law < 3; law++) {
             good(laws[law] + " day+lost;");
             for (int of = 0; of < 3; of++) {
@@ -594,14 +656,54 @@ public final class TextBoundaryTest extends Bench {
         due("by 0 none goes", lost[1], 0);
         due("by 10 each goes that is come to", Integer.bitCount(lost[2]) > 10, true);
         due("above 10 likewise", lost[3], lost[2]);
-        start("wears without: USE by 10: 10 at most");
-        word("rrrrrrrrr", 0, 0, 0);
-        say(0, 0, 0, 0, 0);
-        for (int i = 0; i < 10; i++) {
-            x.write(0);
+    }
+
+    /** On DAY 5 the draw is 9, for a; on DAY 6 it is 0, for q. */
+    private static void wearsByDraw() {
+        for (int odds = -1; odds <= 11; odds++) {
+            start("wears (the odds of 10): 0 at least, 10 at most: " + odds);
+            rule("wears if day=5 then " + odds + " else 0 end;");
+            x.week(7);
+            due("a draw of 9", x.is(1), odds >= 10 ? 1 : 0);
+            start("wears (the odds of 10): 0 at least, 10 at most: " + odds);
+            rule("wears if day=6 then " + odds + " else 0 end;");
+            x.week(7);
+            due("a draw of 0", x.is(1), odds >= 1 ? 1 << 16 : 0);
         }
-        due("use", x.use(17), 450);
-        due("r goes", x.week(1), 1);
+    }
+
+    private static void wearsWithout() {
+        for (int use : new int[] {99, 100, 109, 110, 111}) {
+            start("wears without: USE by 10, cut: 10 at most, of " + use);
+            word("aaaaaaaaa", 0, 0, 0);
+            word("a", 0, 1, 0);
+            for (int i = 0; i < 6; i++) {
+                say(9);
+            }
+            say(0, 0, 0, 0, 0);
+            say(1);
+            x.write(6);
+            x.write(6);
+            for (int i = 90; i < use; i++) {
+                x.write(7);
+            }
+            due("use", x.use(0), use);
+            x.week(6);
+            due("a draw of 9", x.is(1), use >= 100 ? 1 : 0);
+        }
+        for (int use : new int[] {9, 10}) {
+            start("wears without: USE by 10, cut, of " + use);
+            word("q", 0, 1, 0);
+            for (int i = 0; i < 7; i++) {
+                say(9);
+            }
+            say(1);
+            for (int i = 0; i < use; i++) {
+                x.write(7);
+            }
+            x.week(7);
+            due("a draw of 0", x.is(1), use >= 10 ? 1 << 16 : 0);
+        }
     }
 
     private static void noticesTo10() {
@@ -624,8 +726,9 @@ public final class TextBoundaryTest extends Bench {
             word("a", 0, 0, 0);
             say(0);
             rule("stiff " + total + ";");
-            long odds = x.notices(1, false) * 10 / x.notices(1, true);
-            due("odds of " + total, odds, Math.min(10, total / 4));
+            int odds = Math.min(10, total / 4);
+            due("there are odds of " + total, x.notices(1, true) > 0, true);
+            due("odds of " + total, x.notices(1, false) * 10, odds * x.notices(1, true));
         }
     }
 
