@@ -40,6 +40,7 @@ public final class TextBoundaryTest extends Bench {
         wearsTo10();
         wearsByDraw();
         wearsWithout();
+        wearsByNames();
         noticesTo10();
         noticesWithout();
         playedLawsAside();
@@ -703,6 +704,38 @@ public final class TextBoundaryTest extends Bench {
             }
             x.week(7);
             due("a draw of 0", x.is(1), use >= 10 ? 1 << 16 : 0);
+        }
+    }
+
+    /** On DAY 0 the draw is 6, for r, which is letter 17. */
+    private static void wearsByNames() {
+        for (int use = 6; use <= 7; use++) {
+            start("NAMES: letter, use in wears: USE " + use);
+            word("r", 0, 1, 0);
+            say(9);
+            say(1);
+            for (int i = 0; i < use; i++) {
+                x.write(1);
+            }
+            rule("wears use;");
+            due("use", x.week(1), use >= 7 ? 1 : 0);
+        }
+        for (int letter = 16; letter <= 18; letter++) {
+            start("NAMES: letter, use in wears: LETTER " + letter);
+            rule("wears if letter=" + letter + " then 10 else 0 end;");
+            due("letter", x.week(1), letter == 17 ? 1 : 0);
+        }
+        for (int lost = 6; lost <= 7; lost++) {
+            start("NAMES: day, lost in all: " + lost);
+            lose("abcdefg".substring(0, lost));
+            rule("wears lost;");
+            due("lost", x.week(1), lost >= 7 ? lost + 1 : lost);
+        }
+        for (int day = 4; day <= 6; day++) {
+            start("NAMES: day, lost in all: DAY " + day);
+            rule("wears if day=" + day + " then 10 else 0 end;");
+            x.week(7);
+            due("day", x.is(1), new int[] {1 << 9, 1, 1 << 16}[day - 4]);
         }
     }
 
