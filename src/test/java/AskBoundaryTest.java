@@ -190,6 +190,15 @@ public final class AskBoundaryTest extends Bench {
         due("a", x.spare(), 0);
         lose("a");
         due("it is said without a key", x.spare(), -1);
+        start("SPARE: the KEY not LOST: none is left");
+        word("a", 6, 0, 0);
+        say(0);
+        lose("bcdefghijklmnopqrstuvwxyz");
+        due("one is left", x.spare(), 0);
+        lose("a");
+        due("none is left", x.spare(), -1);
+        due("it can be said", x.none(), 0);
+        due("now", x.now(0), 0);
         start("SPARE. NONE: nothing can be said");
         word("ab", 0, 0, 0);
         say(0);
@@ -600,6 +609,25 @@ public final class AskBoundaryTest extends Bench {
         due("it can't be said", x.line(999, false) * 1000 + x.line(999, true), 0);
         say(0);
         due("it can", x.line(999, false) * 1000 + x.line(999, true), 2009);
+        start("LINE: the SENTENCES that there are (again)");
+        for (int n = 0; n < 8; n++) {
+            x.restore();
+            word("e", 6, 0, 0);
+            for (int i = 0; i < 8; i++) {
+                say(0);
+            }
+            lose("e");
+            due("all eight", x.line(999, false) * 1000 + x.line(999, true), 255072);
+            x.restore();
+            word("e", 6, 0, 0);
+            for (int i = 0; i < n; i++) {
+                say(0);
+            }
+            lose("e");
+            due("so many: " + n, x.line(999, false) * 1000 + x.line(999, true), ((1 << n) - 1) * 1000 + 9 * n);
+            due("NOW of these alone", x.none() + x.longer() + x.notices(n, false), 0);
+            due("no more lines", x.notices(n + 1, false), -1);
+        }
     }
 
     private static void sensesOf12() {

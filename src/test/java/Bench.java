@@ -126,10 +126,10 @@ class Bench {
         if (x.about(3) == -1) {
             x.by(script);
         }
-        while (day - x.is(0) >= 920) {
+        for (int i = 0; i < 11 && day - x.is(0) >= 920; i++) {
             due("played", x.played(script), -1);
         }
-        while (x.is(0) < day) {
+        for (int i = 0; i < 23 && x.is(0) < day; i++) {
             x.week(Math.min(40, day - x.is(0)));
         }
         due("day", x.is(0), day);
@@ -153,7 +153,7 @@ class Bench {
             }
         }
         for (int word = 0; word < x.about(0); word++) {
-            all.append(x.stiff(word)).append(':');
+            all.append(x.stiff(word)).append(':').append(x.lot(word)).append(':');
             for (int what = 0; what < 17; what++) {
                 all.append(x.told(word, what)).append(' ');
             }
@@ -163,13 +163,20 @@ class Bench {
                 all.append(x.least(s, what)).append(' ');
             }
             for (int place = -1; place < 5; place++) {
-                all.append(x.sentence(s, place)).append(' ');
+                all.append(x.sentence(s, place)).append('/').append(x.states(s, place, 0)).append(' ');
             }
+            all.append(x.wire(s)).append('/').append(x.worth(s)).append(' ');
         }
         for (int i = 0; i < x.about(6); i++) {
             all.append(x.meant(i)).append(' ');
         }
-        return all.append(x.law()).append(' ').append(x.wrote(2)).append(' ').append(x.fits()).toString();
+        for (int k = 0; k <= 8; k++) {
+            all.append(x.notices(k, false)).append('/').append(x.notices(k, true)).append(' ');
+        }
+        long[] others = {x.law(), x.wrote(0), x.wrote(1), x.wrote(2), x.fewest(), x.fits(), x.none(), x.worst(),
+            x.few(false), x.few(true), x.spare(), x.exact(0), x.longer(), x.lines(1), x.lines(50), x.held(),
+            x.line(7, false), x.line(999, false), x.line(999, true), x.all(), x.senses()};
+        return all.append(java.util.Arrays.toString(others)).toString();
     }
 
     static int refusals() {
