@@ -44,6 +44,7 @@ public final class ModelTest {
         int to = args.length > 1 ? Integer.parseInt(args[1]) : 120;
         for (int seed = from; seed <= to && wrong < 5; seed++) {
             new ModelTest(seed).run();
+            new ModelTest(seed).runLaws();
         }
         System.out.println(wrong == 0 ? "all runs are as the model has them" : wrong + " runs are not");
         if (wrong != 0) {
@@ -266,6 +267,42 @@ public final class ModelTest {
                 ask();
             }
         }
+    }
+
+    /** As many laws as there are calls for: each is read, rules, is asked and goes with the image. */
+    private void runLaws() {
+        tellMuch();
+        while (log.size() < 512 && !broken) {
+            int law = upTo(3);
+            String sum = oneIn(3) ? sum(law, 2) : upTo(20) + "+" + upTo(4) + "*if " + manyAsks() + " then 1 else 2 end*2";
+            feed(List.of("stiff ", "wears ", "notices ").get(law) + sum + ";");
+            call("by", (int) call("text"));
+            for (int word = 0; word < 3 && law == 0; word++) {
+                call("stiff", near(model.s.words.size()));
+            }
+            call("week", 1 + upTo(9));
+            call("notices", 1, true);
+            if (oneIn(2)) {
+                call("worst");
+            }
+            if (model.s.texts.size() == 4 || oneIn(2)) {
+                call("restore");
+            }
+        }
+    }
+
+    private String manyAsks() {
+        StringBuilder b = new StringBuilder(smallAsk());
+        for (int more = upTo(5); more > 0; more--) {
+            b.append(oneIn(2) ? " or " : " and ").append(smallAsk());
+        }
+        return b.toString();
+    }
+
+    /** As often true as not. */
+    private String smallAsk() {
+        String ask = upTo(3) + List.of("<", "<=", ">", ">=", "=", "#").get(upTo(6)) + upTo(3);
+        return oneIn(4) ? "not " + ask : ask;
     }
 
     private void tellMuch() {

@@ -443,6 +443,19 @@ public final class TermsBoundaryTest extends Bench {
         rule("stiff holes*10;");
         due("nine", x.least(0, 0), 90);
         due("one", x.least(1, 0), 10);
+        start("HOLES: nine of a WORD of no EXTRA are nothing to the next, which has none");
+        words(21);
+        word("aaaaaaaaa", 6, 1, 0);
+        word("b", 0, 2, 0);
+        word("aaaaaaaaa", 6, 3, 0);
+        say(1);
+        say(2);
+        say(3);
+        lose("a");
+        rule("stiff holes*10+1;");
+        due("nine", x.least(0, 0), 91);
+        due("none", x.least(1, 0), 1);
+        due("nine of the last", x.least(2, 0), 91);
     }
 
     private static void withoutHoles() {

@@ -17,6 +17,7 @@ public final class TextBoundaryTest extends Bench {
         tokensThatMeanElse();
         tokensToTheirEnds();
         comparisons();
+        eitherAndBoth();
         usesOf26();
         cutTowards0();
         byZero();
@@ -323,6 +324,33 @@ public final class TextBoundaryTest extends Bench {
         }
         due("below 0", value("if -1<0 then 1 else 0 end"), 1);
         due("below 0", value("if 0<-1 then 1 else 0 end"), 0);
+    }
+
+    private static void eitherAndBoth() {
+        start("EITHER: BOTH {or BOTH}. BOTH: ASK {and ASK}");
+        String[] asks = {"1=2", "1=1"};
+        for (int bits = 0; bits < 8; bits++) {
+            boolean a = (bits & 1) != 0;
+            boolean b = (bits & 2) != 0;
+            boolean c = (bits & 4) != 0;
+            String first = asks[bits & 1];
+            String second = asks[bits >> 1 & 1];
+            String third = asks[bits >> 2];
+            chosen(first + " and " + second, a && b);
+            chosen(first + " or " + second, a || b);
+            chosen(first + " and " + second + " and " + third, a && b && c);
+            chosen(first + " or " + second + " or " + third, a || b || c);
+            chosen(first + " and " + second + " or " + third, a && b || c);
+            chosen(first + " or " + second + " and " + third, a || b && c);
+            chosen("not " + first + " and " + second, !a && b);
+            chosen("not " + first + " or " + second, !a || b);
+            chosen(first + " and not " + second + " or not " + third, a && !b || !c);
+        }
+    }
+
+    /** In the midst of a sum, so that what an ask leaves behind would be seen. */
+    private static void chosen(String either, boolean want) {
+        due(either, value("50-if " + either + " then 3 else 4 end*2+1"), want ? 45 : 43);
     }
 
     private static void usesOf26() {
